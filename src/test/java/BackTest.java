@@ -117,6 +117,7 @@ public final class BackTest {
         SHEET.due("top(0)", x.top(0), 14);
         SHEET.due("back(4)", x.back(4), 8);
         SHEET.due("count(0)", x.count(0), 12);
+        x.sweep();
         Sheet.feed(x, SEQ);
         x.read();
         x.step(9);

@@ -7,6 +7,7 @@ public final class NodeTest {
         orderOfMaking();
         letsInsideLets();
         everyPrimitive();
+        notFollowed();
         placesThatHaveIt();
         topsAndWhys();
         ways();
@@ -105,6 +106,22 @@ public final class NodeTest {
             SHEET.due("node(1, 0) of " + words[p], x.node(1, 0), p == 8 ? 5 : 3);
             SHEET.due("node(1, 1) of " + words[p], x.node(1, 1), p == 8 ? 0 : p);
             SHEET.due("rest() of " + words[p], x.rest(), p == 8 ? 2 : 3);
+        }
+    }
+
+    /** 1 is the POINTER a, 2 its NUMBER: a PRIMITIVE's POINTER leads to 1, not to 2. */
+    private static void notFollowed() {
+        String[] texts = {"if 1 a 2;", "if 0 2 a;", "seq 1 a;", "head(cons a 2);", "tail(cons 2 a);"};
+        int[] lowest = {8, 8, 6, 8, 8};
+        int[] steps = {5, 5, 4, 8, 8};
+        for (int i = 0; i < texts.length; i++) {
+            NeedSteps x = Sheet.program("main=let a=7;in " + texts[i]);
+            x.step(steps[i]);
+            SHEET.due("top(0) of " + texts[i], x.top(0), lowest[i]);
+            node(x, lowest[i], 6, 1, -3);
+            SHEET.due("next() of " + texts[i], x.next(), 0);
+            SHEET.due("step(9) of " + texts[i], x.step(9), 2);
+            SHEET.due("top(0) of " + texts[i], x.top(0), 2);
         }
     }
 
@@ -233,6 +250,11 @@ public final class NodeTest {
         SHEET.due("profile(most, least)", x.profile(Integer.MAX_VALUE, Integer.MIN_VALUE), NeedSteps.BAD);
         x.sweep();
         SHEET.due("profile(2, 1): swept ones were made, too", x.profile(2, 1), 16);
+        // two POINTERS, NIL, cons, two APPLYS
+        NeedSteps y = Sheet.program("main=f 1;f a=let b=a;c=nil;in cons b c;");
+        y.step(3);
+        SHEET.due("profile(1, 1) of a let", y.profile(1, 1), 6);
+        SHEET.due("count(5)", y.count(5), 10);
     }
 
     private static void rests() {
