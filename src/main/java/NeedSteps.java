@@ -82,6 +82,8 @@ public final class NeedSteps {
         return fault;
     }
 
+    // ---- steps
+
     public int step(int n) {
         if (!hasProgram) {
             return NO;
@@ -168,6 +170,8 @@ public final class NeedSteps {
         goOn();
         return freed;
     }
+
+    // ---- what there is
 
     public int count(int what) {
         if (!hasProgram) {

@@ -1,6 +1,7 @@
 /** What the tests share: a text goes onto THE TAPE, an answer is held against the one due. */
 final class Sheet {
     private final String title;
+    private String sentence = "";
     private int calls = 0;
     private int wrong = 0;
 
@@ -8,11 +9,27 @@ final class Sheet {
         this.title = title;
     }
 
+    /**
+     * What follows is for this sentence of DOC.md, under this heading. SentenceTest holds the
+     * words against the document, so each call is written with two plain texts.
+     */
+    void sentence(String heading, String words) {
+        sentence = " [" + heading + ": \"" + words + "\"]";
+    }
+
     void due(String call, long got, long want) {
         calls++;
         if (got != want) {
             wrong++;
-            System.out.println(title + ": " + call + " answered " + got + ", due is " + want);
+            System.out.println(title + ": " + call + " answered " + got + ", due is " + want + sentence);
+        }
+    }
+
+    void same(String what, String got, String want) {
+        calls++;
+        if (!got.equals(want)) {
+            wrong++;
+            System.out.println(title + ": " + what + sentence + "\n  is  " + got + "\n  due " + want);
         }
     }
 
@@ -60,6 +77,11 @@ final class Sheet {
         due("read() of " + text, x.read(), -10 - place);
         due("fault() of " + text, x.fault(), fault);
         due("state() behind the fault of " + text, x.state(), NeedSteps.NO);
+    }
+
+    /** The text has a FAULT, where the mark ^ stands in it. */
+    void fault(int fault, String marked) {
+        fault(marked.replace("^", ""), fault, marked.indexOf('^'));
     }
 
     /** The text has no FAULT. */
