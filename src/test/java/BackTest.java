@@ -17,6 +17,7 @@ public final class BackTest {
         farBack();
         sweptByThen();
         sweptAgain();
+        sweptAtTheLastSteps();
         allCounts();
         stopStays();
         backRefuses();
@@ -227,6 +228,39 @@ public final class BackTest {
         y.step(9);
         y.back(1);
         SHEET.due("count(0): a new program has no sweeps", y.count(0), 12);
+    }
+
+    /** The greatest numbers of STEPS that a sweep can be behind: 4999, and 5000, when none can be done. */
+    private static void sweptAtTheLastSteps() {
+        SHEET.sentence("Promise 11: back", "(also what was swept by then,");
+        NeedSteps x = steps4999();
+        int used = x.count(0);
+        SHEET.due("sweep() behind 4999: add, 1, 2, seq and three APPLYS", x.sweep(), 7);
+        SHEET.due("step(9): the 5000th", x.step(9), 1);
+        SHEET.due("back(1)", x.back(1), 4999);
+        SHEET.due("count(0): swept by then", x.count(0), used - 7);
+        SHEET.due("back(1)", x.back(1), 4998);
+        SHEET.due("count(0): not swept by then", x.count(0), used);
+        SHEET.due("step(2)", x.step(2), 2);
+        SHEET.due("count(0): the sweep is gone", x.count(0), used);
+        NeedSteps y = steps4999();
+        y.step(1);
+        SHEET.due("sweep() behind 5000", y.sweep(), 7);
+        SHEET.due("back(0)", y.back(0), 5000);
+        SHEET.due("count(0): still swept", y.count(0), used - 7);
+        SHEET.due("back(1)", y.back(1), 4999);
+        SHEET.due("count(0): not swept by then", y.count(0), used);
+        SHEET.due("step(9)", y.step(9), 1);
+        SHEET.due("back(0)", y.back(0), 5000);
+        SHEET.due("count(0): the sweep is gone", y.count(0), used);
+        SHEET.due("back(5000)", y.back(5000), 0);
+        SHEET.due("count(0)", y.count(0), 2);
+    }
+
+    private static NeedSteps steps4999() {
+        NeedSteps x = Sheet.program("main=seq(add 1 2)x;x=x;");
+        SHEET.due("4999 STEPS", x.step(2000) + x.step(2000) + x.step(999), 4999);
+        return x;
     }
 
     private static void allCounts() {

@@ -36,6 +36,7 @@ public final class MachineTest {
         moreBelow();
         nothingChanges();
         fullOfSteps();
+        noneToDoBehind5000();
         fullOfPlaces();
         fullOfNodes();
         SHEET.end();
@@ -162,6 +163,13 @@ public final class MachineTest {
         SHEET.due("count(0)", y.count(0), 8);
         node(y, 2, 0, 1, -3);
         node(y, 4, 5, 0, -3);
+        // its own EXPR alone: nothing of the DEFINITION ahead of it, or behind it
+        for (String other : new String[] {"1", "nil", "add", "let a=3;in a", "(4)"}) {
+            NeedSteps z = stepped("f=" + other + ";main=2;g=" + other + ";", 1);
+            node(z, 3, 0, 2, -3);
+            SHEET.due("count(0) beside " + other, z.count(0), 4);
+            SHEET.due("top(0) beside " + other, z.top(0), 3);
+        }
     }
 
     private static void madeOfNames() {
@@ -207,6 +215,17 @@ public final class MachineTest {
         String deep = "add 1 2 3 4 5 6 7 8(".repeat(12) + "9" + ")".repeat(12);
         NeedSteps y = stepped("main=" + deep + ";", 1);
         SHEET.due("deep: count(0)", y.count(0), 1 + 12 * (9 + 9) + 1);
+        String deepest = "add 1 2 3 4 5 6 7 8(".repeat(12) + "sub 1 2 3 4 5 6 7 8 9" + ")".repeat(12);
+        NeedSteps z = stepped("main=" + deepest + ";", 1);
+        SHEET.due("deepest: count(0)", z.count(0), 1 + 12 * (9 + 9) + 10 + 9);
+        // 1 to 108 are the ATOMS ahead of it, 109 to 118 its own, then its APPLYS
+        node(z, 109, 3, 1, -3);
+        node(z, 118, 0, 9, -3);
+        node(z, 119, 1, 109, 110);
+        node(z, 127, 1, 126, 118);
+        node(z, 136, 1, 135, 127);
+        node(z, 235, 1, 234, 226);
+        SHEET.due("top(0)", z.top(0), 235);
     }
 
     /** POINTERS of a let first, in their row, then their EXPRS. */
@@ -535,6 +554,11 @@ public final class MachineTest {
         SHEET.number("main=quo 1 2;", 0);
         SHEET.number("main=quo(sub 0 1)2;", 0);
         SHEET.number("main=quo 6 3;", 2);
+        SHEET.number("main=quo 7 1;", 7);
+        SHEET.number("main=quo 7(sub 0 1);", -7);
+        SHEET.number("main=quo(sub 0 7)1;", -7);
+        SHEET.number("main=quo 7 7;", 1);
+        SHEET.number("main=quo 0 7;", 0);
         SHEET.number("main=less 1 2;", 1);
         SHEET.number("main=less 2 2;", 0);
         SHEET.number("main=less 3 2;", 0);
@@ -710,6 +734,50 @@ public final class MachineTest {
         NeedSteps y = Sheet.program("main=main;");
         SHEET.due("step(2000)", y.step(2000) + y.step(2000) + y.step(2000), 5000);
         SHEET.due("state()", y.state(), 3);
+    }
+
+    /**
+     * Where there is none to be done anyway, none is FULL: next() tells so, whether FULL or not. The
+     * document does not say it of state(); this is how it is read here.
+     */
+    private static void noneToDoBehind5000() {
+        SHEET.sentence("Terms", "A STEP is not done, FULL, when 5000 were done,");
+        NeedSteps rest = steps5000(35, "add(g 7)(add(g 5)(g 1))");
+        SHEET.due("next()", rest.next(), 6);
+        SHEET.due("step(1)", rest.step(1), 0);
+        SHEET.due("state(): AT REST", rest.state(), 1);
+        SHEET.due("rest()", rest.rest(), 0);
+        SHEET.due("the NUMBER", rest.node(rest.top(0), 1), 162);
+        NeedSteps error = steps5000(31, "quo(g 7)(sub(add(g 5)(g 1))34)");
+        SHEET.due("next()", error.next(), 7);
+        SHEET.due("step(1)", error.step(1), 0);
+        SHEET.due("state(): an ERROR", error.state(), 2);
+        SHEET.due("error()", error.error(), 3);
+        // a POINTER more, and there is one to be done
+        NeedSteps full = steps5000(36, "add(g 7)(add(g 5)(g 1))");
+        SHEET.due("next()", full.next(), 4);
+        SHEET.due("step(1)", full.step(1), 0);
+        SHEET.due("state(): FULL", full.state(), 3);
+    }
+
+    private static NeedSteps steps5000(int pointers, String expr) {
+        NeedSteps x = Sheet.program("main=" + pointersTo(expr, pointers) + ";g n=if n(add(g(sub n 1))(g(sub n 1)))1;");
+        for (int i = 0; i < 100 && x.count(4) < 5000; i++) {
+            x.step(Math.min(2000, 5000 - x.count(4)));
+            x.sweep();
+        }
+        SHEET.due("count(4)", x.count(4), 5000);
+        return x;
+    }
+
+    /** An EXPR that comes to the other by so many POINTERS, six a let. */
+    private static String pointersTo(String expr, int pointers) {
+        if (pointers == 0) {
+            return expr;
+        }
+        int here = Math.min(6, pointers);
+        String names = "let a=b;b=c;c=d;d=e;e=f;f=".substring(0, 2 + 4 * here);
+        return names + pointersTo(expr, pointers - here) + ";in a";
     }
 
     private static void fullOfPlaces() {

@@ -74,6 +74,17 @@ public final class NodeTest {
         NeedSteps y = Sheet.program("main=add 1 2;");
         y.step(9);
         node(y, 5, 0, 3, -3);
+        String[] done = {"add 1 2", "sub 1 2", "mul 1 2", "quo 1 2", "less 1 2", "same 1 2", "empty nil", "if 1 2 3",
+            "if 0 2 3", "seq 1 2"};
+        for (int i = 0; i < done.length; i++) {
+            NeedSteps one = Sheet.program("main=" + done[i] + ";");
+            while (one.next() != 4 && one.count(4) < 9) {
+                one.step(1);
+            }
+            one.step(1);
+            SHEET.due("node(top(0), 0) of " + done[i], one.node(one.top(0), 0), i < 7 ? 0 : 6);
+            SHEET.due("node(top(0), 2) of " + done[i], one.node(one.top(0), 2), -3);
+        }
         // NUMBERS that are as the refusals are
         SHEET.number("main=sub 0 1;", -1);
         SHEET.number("main=sub 0 2;", -2);

@@ -232,6 +232,11 @@ public final class ReadTest {
         SHEET.error("main=let a=1;in let a=add a 1;in a;", 4, 5);
         SHEET.error("main=f 1;f a=let a=add a 1;in a;", 6, 5);
         SHEET.error("main=let a=add a 1;in a;a=1;", 4, 5);
+        // a let, a DEFINITION beside it does not tell: not around it
+        SHEET.number("main=add(let a=1;b=2;in b)(let c=3;in b);b=9;", 11);
+        SHEET.number("main=add(let c=3;in b)(let a=1;b=2;in b);b=9;", 11);
+        SHEET.number("f a b=b;g a=b;main=g 1;b=7;", 7);
+        SHEET.number("main=g 1;g a=b;f a b=b;b=7;", 7);
         SHEET.number("main=later;later=6;", 6);
         SHEET.number("first=6;main=first;", 6);
     }
@@ -307,6 +312,14 @@ public final class ReadTest {
         // each let has six of its own, each DEFINITION its own PARAMETERS
         SHEET.fine("main=let x=let a=1;b=2;c=3;d=4;e=5;f=6;in a;a=1;b=2;c=3;d=4;e=5;in x;", 1);
         SHEET.fine("f a b c d e f g h=1;g a b c d e f g h=1;main=1;", 3);
+        // it comes ahead of a NAME that is not told, and of a main that is not there
+        String others = definitions(20).replace("main=1;", "other=1;");
+        SHEET.fault(3, others + "^main=1;");
+        SHEET.fault(3, definitions(20).replace("d19=1;", "d19=y;") + "^e=1;");
+        SHEET.fault(3, "f a b c d e f g h ^i=y;");
+        SHEET.fault(3, "f=y 1 2 3 4 5 6 7 8 9 ^0;");
+        SHEET.fault(3, "f=let a=y;b=2;c=3;d=4;e=5;f=6;^g=7;in a;");
+        SHEET.fault(3, "f=y((((((((((((^(1)))))))))))));");
         // a TOKEN with the FAULTS 3 and 4 has the lesser one
         SHEET.fault(3, definitions(20) + "^main=1;");
         SHEET.fault(3, "f a b c d e f g h ^a=1;main=1;");
@@ -375,6 +388,9 @@ public final class ReadTest {
         SHEET.fault(5, "f=add 1 ^y;main a=1;");
         SHEET.fault(5, "f=^y;");
         SHEET.fault(5, "main=1;f=2;g=^y;");
+        SHEET.fault(5, "main=add(let a=1;b=2;in b)(let c=3;in ^b);");
+        SHEET.fault(5, "f a b=b;g a=^b;main=1;");
+        SHEET.fault(5, "main=let a=1;b=2;in b;f=let c=1;in ^b;");
         SHEET.fine("main=let a=b;b=a;in a;", 1);
     }
 
@@ -400,6 +416,20 @@ public final class ReadTest {
         NeedSteps x = Sheet.program("main=1;");
         SHEET.due("read() of nothing behind a program", x.read(), -10);
         SHEET.due("fault()", x.fault(), 2);
+        // THE TAPE alone is the program: what one before it told is not told any more
+        NeedSteps y = new NeedSteps();
+        for (String name : new String[] {"f", "g", "a", "b", "c", "d"}) {
+            Sheet.feed(y, "main=1;f a b=b;g=let c=1;d=2;in c;");
+            SHEET.due("read()", y.read(), 3);
+            Sheet.feed(y, "main=let e=1;in " + name + ";");
+            SHEET.due("read() with the NAME " + name + " of before", y.read(), -26);
+            SHEET.due("fault()", y.fault(), 5);
+        }
+        Sheet.feed(y, "f=1;main=2;");
+        SHEET.due("read()", y.read(), 2);
+        Sheet.feed(y, "f=1;");
+        SHEET.due("read() without the main of before", y.read(), -14);
+        SHEET.due("fault()", y.fault(), 6);
     }
 
     private static void asItBegins() {
@@ -473,5 +503,12 @@ public final class ReadTest {
         SHEET.due("fault(): an ERROR is none", x.fault(), 0);
         x.read();
         SHEET.due("fault() of nothing", x.fault(), 2);
+        // a long text's FAULT is not found again in a shorter one
+        Sheet.feed(x, "main=add 1(add 2(add 3(add 4 y)));");
+        x.read();
+        SHEET.due("fault() of the long one", x.fault(), 5);
+        Sheet.feed(x, "main=1;");
+        SHEET.due("read() of the short one", x.read(), 1);
+        SHEET.due("fault() of the short one", x.fault(), 0);
     }
 }

@@ -104,6 +104,15 @@ public final class StepTest {
         rest.stopAt(1);
         SHEET.due("step(9)", rest.step(9), 1);
         SHEET.due("state(): AT REST, not stopped", rest.state(), 1);
+        // with 400 nodes, too, it stops ahead of the FUNCTION: that it is FULL, the next one finds
+        NeedSteps full = Sheet.program(NODES);
+        full.step(793);
+        full.stopAt(1);
+        SHEET.due("step(9): APPLY", full.step(9), 1);
+        SHEET.due("state() at the stop", full.state(), 0);
+        SHEET.due("next()", full.next(), 2);
+        SHEET.due("step(9)", full.step(9), 0);
+        SHEET.due("state(): FULL", full.state(), 3);
         // other DEFINITIONS do not stop
         NeedSteps other = Sheet.program("main=g 1;f a=a;g a=a;");
         other.stopAt(1);
