@@ -1,4 +1,7 @@
 import java.io.IOException;
+import java.lang.reflect.Field;
+import java.lang.reflect.Method;
+import java.lang.reflect.Modifier;
 import java.nio.file.Files;
 import java.nio.file.Path;
 import java.util.List;
@@ -30,7 +33,26 @@ public final class LanguageTest {
         }
         sheet.holds("rule 11: classes", lines.stream().filter(s -> s.matches(".*\\bclass \\w+.*\\{")).count() <= 12);
         sheet.holds("rule 11: methods stay short", longestMethod(lines) <= 60);
+        faces(sheet, NeedSteps.class);
+        for (Class<?> inside : NeedSteps.class.getDeclaredClasses()) {
+            faces(sheet, inside);
+        }
         sheet.end();
+    }
+
+    private static void faces(Sheet sheet, Class<?> one) {
+        int fields = 0;
+        for (Field field : one.getDeclaredFields()) {
+            boolean shared = Modifier.isStatic(field.getModifiers());
+            fields += shared ? 0 : 1;
+            sheet.holds("rule 5: " + one.getName() + "." + field.getName() + " is final",
+                !shared || Modifier.isFinal(field.getModifiers()));
+        }
+        sheet.holds("rule 11: fields of " + one.getName(), fields <= 20);
+        for (Method method : one.getDeclaredMethods()) {
+            sheet.holds("rule 11: parameters of " + one.getName() + "." + method.getName(),
+                method.getParameterCount() <= 7);
+        }
     }
 
     /** Members begin and end with the same indent, of 4 or 8 blanks. */
